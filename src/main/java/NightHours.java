@@ -164,7 +164,7 @@ public final class NightHours {
             case 1:
                 return told.moveGreater[k];
             case 2:
-                return told.walkOfMove(k);
+                return told.moveWalk[k];
             default:
                 return NONE;
         }
@@ -295,7 +295,7 @@ public final class NightHours {
         if (!isSaying(saying)) {
             return NONE;
         }
-        int first = NOTHING;
+        int bearing = NOTHING;
         for (int alt = told.choices[saying] - 1; alt >= 0; alt--) {
             int row = told.firstSpan(saying, alt);
             boolean holds = true;
@@ -306,17 +306,17 @@ public final class NightHours {
                 holds = holds && told.spans.holds(i, held.hours);
             }
             if (holds) {
-                first = alt;
+                bearing = alt;
             }
         }
-        return first;
+        return bearing;
     }
 
     public int breaks() {
         for (int k = 0; k < told.moves; k++) {
             int lesser = held.hours[told.moveLesser[k]];
             int greater = held.hours[told.moveGreater[k]];
-            int minutes = told.walkOfMove(k);
+            int minutes = told.moveWalk[k];
             if (lesser == NONE || greater == NONE) {
                 continue;
             }
@@ -373,7 +373,7 @@ public final class NightHours {
             choices = told.choices[item];
         } else if (item >= FIRST_MOVE && item - FIRST_MOVE < told.moves) {
             row = MOST_SAYINGS + item - FIRST_MOVE;
-            choices = told.walkOfMove(item - FIRST_MOVE) < 0 ? 0 : 2;
+            choices = told.moveWalk[item - FIRST_MOVE] < 0 ? 0 : 2;
         } else {
             return false;
         }
@@ -473,6 +473,7 @@ public final class NightHours {
         if (!isGoneThrough() || all.found > MOST_PLANNED) {
             return SPENT;
         }
+        asking.countStates(told);
         asking.workOut(told, m);
         return asking.needed[0] > MOST_QUESTIONS ? NOTHING : 0;
     }
@@ -653,7 +654,7 @@ public final class NightHours {
         if (!isKept(w)) {
             return NONE;
         }
-        return told.openBase[time] != NONE ? NOTHING : hard.minute(hard.items, time, false);
+        return told.opens.y[time] != NONE ? NOTHING : hard.minute(hard.items, time, false);
     }
 
     public int count(int what) {
@@ -730,9 +731,8 @@ public final class NightHours {
         final int[] walks = new int[MOST_PLACES * MOST_PLACES];
         final int[] timePerson = new int[MOST_TIMES];
         final int[] timePlace = new int[MOST_TIMES];
-        final int[] openBase = new int[MOST_TIMES];
-        final int[] openLow = new int[MOST_TIMES];
-        final int[] openHigh = new int[MOST_TIMES];
+        // Row t is of TIME t: the span of an open one, y NONE of one that is not.
+        final Spans opens = new Spans(MOST_TIMES);
         final int[] trust = new int[MOST_SAYINGS];
         final int[] choices = new int[MOST_SAYINGS];
         final int[] parts = new int[MOST_SAYINGS * MOST_ALLS];
@@ -740,6 +740,7 @@ public final class NightHours {
         final Spans asked = new Spans(MOST_QUESTIONS);
         final int[] moveLesser = new int[MOST_MOVES];
         final int[] moveGreater = new int[MOST_MOVES];
+        final int[] moveWalk = new int[MOST_MOVES];
 
         Told() {
             clear();
@@ -759,7 +760,7 @@ public final class NightHours {
             }
             Arrays.fill(timePerson, NONE);
             Arrays.fill(timePlace, NONE);
-            Arrays.fill(openBase, NONE);
+            Arrays.fill(opens.y, NONE);
             Arrays.fill(trust, 1);
             Arrays.fill(choices, 0);
             Arrays.fill(parts, 0);
@@ -782,10 +783,6 @@ public final class NightHours {
                 return NOTHING;
             }
             return walks[a * MOST_PLACES + b];
-        }
-
-        int walkOfMove(int k) {
-            return walkBetween(timePlace[moveLesser[k]], timePlace[moveGreater[k]]);
         }
 
         int trustOf(int bits) {
@@ -827,6 +824,7 @@ public final class NightHours {
                     if (same && timePlace[a] != timePlace[b] && moves < MOST_MOVES) {
                         moveLesser[moves] = a;
                         moveGreater[moves] = b;
+                        moveWalk[moves] = walkBetween(timePlace[a], timePlace[b]);
                         moves++;
                     }
                 }
@@ -876,7 +874,7 @@ public final class NightHours {
         static final int SEMICOLON = 17;
         static final int COLON = 18;
         static final int MINUS = 19;
-        static final int WRONG = 20;
+        static final int NO_TOKEN = 20;
         static final int END = 21;
         static final int LONGEST_NAME = 8;
         static final int LONGEST_INT = 4;
@@ -916,13 +914,13 @@ public final class NightHours {
                 for (int i = at; i < end; i++) {
                     sum = sum << 8 | tape[i];
                 }
-                kind[count] = end - at > LONGEST_NAME ? WRONG : wordOrName(sum);
+                kind[count] = end - at > LONGEST_NAME ? NO_TOKEN : wordOrName(sum);
             } else if (isDigit(tape[at])) {
                 end = endOfDigits(tape, at, length);
                 for (int i = at; i < end; i++) {
                     sum = sum * 10 + tape[i] - '0';
                 }
-                kind[count] = end - at > LONGEST_INT ? WRONG : INT;
+                kind[count] = end - at > LONGEST_INT ? NO_TOKEN : INT;
             } else {
                 kind[count] = sign(tape[at]);
             }
@@ -965,7 +963,7 @@ public final class NightHours {
                 case '-':
                     return MINUS;
                 default:
-                    return WRONG;
+                    return NO_TOKEN;
             }
         }
 
@@ -1290,14 +1288,14 @@ public final class NightHours {
             }
             if (state == Grammar.OPEN_X) {
                 x = found;
-                return into.openBase[x] != NONE ? WRONG : 0;
+                return into.opens.y[x] != NONE ? WRONG : 0;
             }
             y = found;
-            if (x == y || into.openBase[y] != NONE) {
+            if (x == y || into.opens.y[y] != NONE) {
                 return WRONG;
             }
             for (int t = 0; t < into.times; t++) {
-                if (into.openBase[t] == x) {
+                if (into.opens.y[t] == x) {
                     return WRONG;
                 }
             }
@@ -1359,9 +1357,8 @@ public final class NightHours {
             if (tell == Tokens.WAY) {
                 into.addPath(x, y, value);
             } else {
-                into.openBase[x] = y;
-                into.openLow[x] = low;
-                into.openHigh[x] = value;
+                into.opens.put(x, x, y);
+                into.opens.bound(x, low, value);
             }
         }
 
@@ -1450,7 +1447,8 @@ public final class NightHours {
 
         /** Node i is at most w behind node j from now on; false: there are no HOURS then. */
         boolean tighten(int level, int i, int j, int w) {
-            if (!hasLevel(level) || !hasNode(i) || !hasNode(j)) {
+            boolean hasTable = level >= 0 && (level + 1) * area <= most.length;
+            if (!hasTable || i < 0 || i >= nodes || j < 0 || j >= nodes) {
                 return false;
             }
             if (i == j) {
@@ -1595,15 +1593,16 @@ public final class NightHours {
             built = 0;
             net.blank(told.times + 1 + guests);
             based = true;
+            Spans opens = told.opens;
             for (int t = 0; t < told.times; t++) {
-                if (told.openBase[t] == NONE) {
+                if (opens.y[t] == NONE) {
                     continue;
                 }
                 if (isHard) {
-                    net.loose(t + 1, told.openBase[t] + 1, told.openLow[t], told.openHigh[t]);
+                    net.loose(t + 1, opens.y[t] + 1, opens.low[t], opens.high[t]);
                     based = based && bind(0, t, NONE, 0, LAST_MINUTE);
                 } else {
-                    based = based && bind(0, t, told.openBase[t], told.openLow[t], told.openHigh[t]);
+                    based = based && bind(0, t, opens.y[t], opens.low[t], opens.high[t]);
                 }
             }
             Spans more = held.more;
@@ -1645,7 +1644,7 @@ public final class NightHours {
             if (code >= FIRST_GUEST) {
                 return told.walkBetween(told.timePlace[code - FIRST_GUEST], guestPlace);
             }
-            return told.walkOfMove(code - FIRST_MOVE);
+            return told.moveWalk[code - FIRST_MOVE];
         }
 
         /** The level behind has this one's spans and those of a choice; false: no HOURS. */
@@ -1727,8 +1726,8 @@ public final class NightHours {
                 book.addWay(found, item, chosen, items);
             }
             if (hasGuest) {
-                guestLeast = Math.min(guestLeast, minute(items, told.times, false));
-                guestMost = Math.max(guestMost, minute(items, told.times, true));
+                guestLeast = Math.min(guestLeast, -net.reach(items, 0, told.times + 1));
+                guestMost = Math.max(guestMost, net.reach(items, told.times + 1, 0));
             }
             found++;
         }
@@ -1945,11 +1944,13 @@ public final class NightHours {
         private static final int NO_BIT = MOST_QUESTIONS;
         private static final int STATES = 1 << 2 * MOST_QUESTIONS;
         private static final int TOO_MANY = MOST_QUESTIONS + 1;
+        // Whole answers are numbered by their bits of yes; those with a yes to QUESTION q.
+        private static final int[] WITH_YES = {0xAAAAAAAA, 0xCCCCCCCC, 0xF0F0F0F0, 0xFF00FF00, 0xFFFF0000};
 
         private final Going going;
         private final Book book;
+        private final int[] wholeAnswers = new int[MOST_PLANNED];
         private final int[] leftRow = new int[STATES];
-        private final int[] seenBy = new int[STATES];
         final int[] needed = new int[STATES];
         boolean fresh = false;
 
@@ -2019,7 +2020,6 @@ public final class NightHours {
 
         /** How many QUESTIONS are needed in each state of answers so that at most m WAYS are LEFT. */
         void workOut(Told told, int m) {
-            countStates(told);
             for (int state = STATES - 1; state >= 0; state--) {
                 int least = leftRow[state] <= m ? 0 : TOO_MANY;
                 for (int q = 0; q < told.questions && least > 0; q++) {
@@ -2048,31 +2048,59 @@ public final class NightHours {
             return NOTHING;
         }
 
-        private void countStates(Told told) {
+        /** HOURS answer all QUESTIONS in one way, so whole answers tell what is LEFT in each state. */
+        void countStates(Told told) {
             if (fresh) {
                 return;
             }
             fresh = true;
-            Arrays.fill(leftRow, 0);
-            Arrays.fill(seenBy, NONE);
-            for (int w = 0; w < going.found; w++) {
+            int ways = Math.min(going.found, MOST_PLANNED);
+            for (int w = 0; w < ways; w++) {
                 going.bring(book, w);
-                spread(told, w, 0, going.items, 0);
+                wholeAnswers[w] = 0;
+                spread(told, w, 0, going.items, -1);
+            }
+            for (int state = 0; state < STATES; state++) {
+                leftRow[state] = countLeft(ways, answersOf(told, state));
             }
         }
 
-        private void spread(Told told, int w, int q, int level, int state) {
-            if (q >= told.questions || q >= MOST_QUESTIONS) {
-                if (seenBy[state] != w) {
-                    seenBy[state] = w;
-                    leftRow[state]++;
+        private static int answersOf(Told told, int state) {
+            int answers = -1;
+            for (int q = 0; q < told.questions; q++) {
+                if ((state >> q & 1) != 0) {
+                    answers &= WITH_YES[q];
                 }
+                if ((state >> NO_BIT + q & 1) != 0) {
+                    answers &= ~WITH_YES[q];
+                }
+            }
+            return answers;
+        }
+
+        private int countLeft(int ways, int answers) {
+            int count = 0;
+            for (int w = 0; w < ways && answers != 0; w++) {
+                if ((wholeAnswers[w] & answers) != 0) {
+                    count++;
+                }
+            }
+            return count;
+        }
+
+        /** Marks those of the answers for which this level has HOURS; all are alike up to QUESTION q. */
+        private void spread(Told told, int w, int q, int level, int answers) {
+            if ((answers & ~wholeAnswers[w]) == 0) {
                 return;
             }
-            spread(told, w, q + 1, level, state);
+            if (q >= told.questions || q >= MOST_QUESTIONS) {
+                wholeAnswers[w] |= answers;
+                return;
+            }
             for (int how = 0; how < 3; how++) {
                 if (answer(told, q, level, how)) {
-                    spread(told, w, q + 1, level + 1, state | 1 << (how == 0 ? q : NO_BIT + q));
+                    int kind = how == 0 ? WITH_YES[q] : ~WITH_YES[q];
+                    spread(told, w, q + 1, level + 1, answers & kind);
                 }
             }
         }
