@@ -1457,24 +1457,32 @@ public final class NightHours {
             int room = w - farthest[i] + nearest[j];
             int base = level * area;
             int later = stead[i];
-            int rowOfEarlier = base + stead[j] * nodes;
+            int earlier = stead[j];
+            int rowOfEarlier = base + earlier * nodes;
             if (most[rowOfEarlier + later] + room < 0) {
                 return false;
             }
-            if (most[base + later * nodes + stead[j]] <= room) {
+            if (most[base + later * nodes + earlier] <= room) {
                 return true;
             }
             for (int p = 0; p < nodes; p++) {
                 int row = base + p * nodes;
                 int by = most[row + later] + room;
-                for (int q = 0; q < nodes; q++) {
-                    int sum = by + most[rowOfEarlier + q];
-                    if (sum < most[row + q]) {
-                        most[row + q] = sum;
-                    }
+                // The table is closed: what comes no nearer to the earlier node comes no nearer to any.
+                if (by < most[row + earlier]) {
+                    tightenRow(row, by, rowOfEarlier);
                 }
             }
             return true;
+        }
+
+        private void tightenRow(int row, int by, int rowOfEarlier) {
+            for (int q = 0; q < nodes; q++) {
+                int sum = by + most[rowOfEarlier + q];
+                if (sum < most[row + q]) {
+                    most[row + q] = sum;
+                }
+            }
         }
     }
 

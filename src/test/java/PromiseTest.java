@@ -50,6 +50,7 @@ public final class PromiseTest {
         keeping();
         counts();
         spentAnswers();
+        largest();
         System.out.println(wrong == 0 ? "all promises hold" : wrong + " answers are wrong");
         System.exit(wrong == 0 ? 0 : 1);
     }
@@ -648,6 +649,26 @@ public final class PromiseTest {
             + "say u: y at 9 9 or y at 10 10;");
         due("with a MOVE", withMove.quarrels(), 1);
         due("with a MOVE", withMove.quarrel(0), 3);
+        StringBuilder circle = new StringBuilder(times("time t#;", 10));
+        for (int i = 0; i < 9; i++) {
+            circle.append("say s").append((char) ('a' + i)).append(": t").append((char) ('b' + i)).append(" behind t").append((char) ('a' + i)).append(" 1 1;");
+        }
+        NightHours ten = told(circle + "say z: ta behind tj 5 5;");
+        promise = 20;
+        due("all ten", ten.quarrels(), 1);
+        promise = 21;
+        due("all ten", ten.quarrel(0), 1023);
+        promise = 22;
+        due("each of ten", ten.givingUps(), 10);
+        due("each of ten", ten.givingUp(9), 512);
+        NightHours each = told("time x;" + times("say s#: x at 5 4;", 10));
+        promise = 20;
+        due("each of ten", each.quarrels(), 10);
+        due("each of ten", each.quarrel(9), 512);
+        promise = 23;
+        due("all ten", each.givingUps(), 1);
+        due("all ten", each.givingUp(0), 1023);
+        due("all ten", each.price(), 10);
     }
 
     private static void givingUp() {
@@ -911,6 +932,15 @@ public final class PromiseTest {
         due("plan(1) in two", chain.plan(1), 2);
         promise = 36;
         due("first(1): half first", chain.first(1), 1);
+        NightHours five = told("time x; say a: x at 0 0 or x at 1 1 or x at 2 9; say b: x at 0 2 or x at 3 3 or x at 4 4 or x at 5 5;"
+            + times("ask k#: x at @ @;", 5).replaceFirst("@ @", "0 0").replaceFirst("@ @", "1 1").replaceFirst("@ @", "2 2")
+            .replaceFirst("@ @", "3 3").replaceFirst("@ @", "4 4"));
+        promise = 35;
+        due("ways()", five.ways(), 6);
+        due("plan(1) in five", five.plan(1), 5);
+        due("plan(2) in four", five.plan(2), 4);
+        promise = 36;
+        due("first(1)", five.first(1), 0);
     }
 
     private static void mores() {
@@ -1185,5 +1215,48 @@ public final class PromiseTest {
         NightHours moves = told("who p; place a; place b; way a b 0;" + times("time x# of p in a; time y# of p in b;", 4));
         promise = 11;
         due("goes(0, 0)", moves.goes(0, 0), -3);
+    }
+
+    /** As many TIMES, SAYINGS, MOVES and QUESTIONS as there can be at once. */
+    private static void largest() {
+        promise = 9;
+        StringBuilder b = new StringBuilder("who p;" + times("place q#;", 6) + "way qa qb 1; way qb qc 1; way qc qd 1; way qd qe 1; way qe qf 9;");
+        for (int i = 0; i < 10; i++) {
+            char c = (char) ('a' + i);
+            b.append("time t").append(c).append(" of p in q").append((char) ('a' + i % 5)).append(";");
+        }
+        for (int i = 0; i < 10; i++) {
+            char c = (char) ('a' + i);
+            b.append("say s").append(c).append(": t").append(c).append(" at ").append(100 - 10 * i).append(" ").append(100 - 10 * i).append(";");
+        }
+        b.append(times("ask k#: t# at 0 1440;", 5));
+        NightHours n = told(b.toString());
+        due("MOVES", n.count(5), 40);
+        due("ways()", n.ways(), 1);
+        due("TRIES: each MOVE's first choice is wrong", n.count(6), 10 + 2 * 40);
+        due("goes(0, 39)", n.goes(0, 39), 1);
+        due("hour(0, 9, true)", n.hour(0, 9, true), 10);
+        due("left(31, 0)", n.left(31, 0), 1);
+        due("left(0, 31)", n.left(0, 31), 0);
+        due("plan(0)", n.plan(0), -2);
+        due("keep()", n.keep(), 0);
+        due("could, ten MOVES more", n.could(0, 5, 0, 1440), 1);
+        due("been", n.been(0, 5, true), 1440);
+        due("been", n.been(0, 5, false), 0);
+        due("could between", n.could(0, 5, 11, 110), 0);
+        due("could behind", n.could(0, 5, 112, 113), 1);
+        due("give()", n.give(), 0);
+        due("quarrels()", n.quarrels(), 0);
+        for (int k = 0; k < 10; k++) {
+            n.pick(k, 0);
+        }
+        for (int k = 0; k < 40; k++) {
+            n.pick(100 + k, 1);
+        }
+        due("stands()", n.stands(), 1);
+        n.pick(139, 0);
+        due("stands()", n.stands(), 0);
+        due("ring()", n.ring(), 3);
+        due("ringAt(2)", n.ringAt(2), 139);
     }
 }

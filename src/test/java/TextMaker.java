@@ -34,6 +34,52 @@ final class TextMaker {
         return m.text.toString();
     }
 
+    /** A night as large as can be, its hours nearly fixed, so that GOING THROUGH so many ITEMS is not SPENT. */
+    static String makeFull(Random random) {
+        TextMaker m = new TextMaker(random);
+        m.live = true;
+        m.lie = random.nextInt(4) == 0 ? 0.1 : 0;
+        m.reach = 1400;
+        m.buildFull();
+        return m.text.toString();
+    }
+
+    private void buildFull() {
+        tell(0);
+        for (int i = 0; i < 6; i++) {
+            tell(1);
+        }
+        for (int i = 1; i < 6; i++) {
+            words("way", places.get(i), places.get(random.nextInt(i)), "" + upTo(20), ";");
+        }
+        for (int i = 0; i < 10; i++) {
+            time();
+        }
+        open();
+        open();
+        for (int i = 0; i < 10; i += 3) {
+            words(random.nextInt(3) == 0 ? "sure" : "say", fresh(), ":");
+            for (int k = i; k < Math.min(10, i + 3); k++) {
+                int at = truth.get(k);
+                words(k > i ? new String[] {"and"} : new String[0]);
+                words(times.get(k), "at", "" + at, "" + Math.min(1440, at + (random.nextInt(6) == 0 ? 30 : 0)));
+            }
+            word(";");
+        }
+        for (int i = 4; i < 10; i++) {
+            if (random.nextInt(3) == 0) {
+                words("say", fresh(), ":");
+                span();
+                word(";");
+            } else {
+                words("say", fresh(), ":", times.get(i), "at", "0", "1440", ";");
+            }
+        }
+        for (int i = 0; i < 5; i++) {
+            tell(6);
+        }
+    }
+
     private void buildLive(int size) {
         int who = 1 + upTo(Math.min(3, size / 3));
         int where = 2 + upTo(Math.min(4, size / 2));
