@@ -180,7 +180,7 @@ public final class PromiseTest {
         due("walk", n.walk(1, 0), 12);
         due("count(10)", n.count(10), 2);
         due("count(11)", n.count(11), 1);
-        told("who trusts; place of" + "f; time wh; time behinds; say orr: wh at 1 1;");
+        told("who trusts; place off; time wh; time behinds; say orr: wh at 1 1;");
         told(times("who p#;", 4) + times("place q#;", 6) + times("way qa qb 1;", 12) + times("time t#;", 10)
             + times("say s#: ta at 1 1 and ta at 1 1 and ta at 1 1 or ta at 1 1 or ta at 1 1 or ta at 1 1;", 5) + times("sure u#: ta at 1 1;", 5)
             + times("open t# behind tj 1 2;", 4) + times("ask k#: ta at 1 1;", 5));
