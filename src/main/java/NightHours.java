@@ -182,10 +182,14 @@ public final class NightHours {
 
     /** The level that has all of WAY w; below 0 what a call answers instead. */
     private int levelOf(int w) {
+        // No WAY has a number below 0, whatever GOING THROUGH finds: that it is SPENT doesn't matter then.
+        if (w < 0) {
+            return NONE;
+        }
         if (!isGoneThrough()) {
             return SPENT;
         }
-        if (w < 0 || w >= all.found) {
+        if (w >= all.found) {
             return NONE;
         }
         all.bring(book, w);
@@ -332,10 +336,14 @@ public final class NightHours {
     }
 
     public int quarrel(int i) {
+        // As with WAYS: below 0 there is none, SPENT or not.
+        if (i < 0) {
+            return NONE;
+        }
         if (!quarrelling.isKnown(told, held)) {
             return SPENT;
         }
-        return i >= 0 && i < quarrelling.quarrelCount ? quarrelling.quarrelRow[i] : NONE;
+        return i < quarrelling.quarrelCount ? quarrelling.quarrelRow[i] : NONE;
     }
 
     public int givingUps() {
@@ -343,10 +351,13 @@ public final class NightHours {
     }
 
     public int givingUp(int i) {
+        if (i < 0) {
+            return NONE;
+        }
         if (!quarrelling.isKnown(told, held)) {
             return SPENT;
         }
-        return i >= 0 && i < quarrelling.givingCount ? quarrelling.givingRow[i] : NONE;
+        return i < quarrelling.givingCount ? quarrelling.givingRow[i] : NONE;
     }
 
     public int cheapest() {

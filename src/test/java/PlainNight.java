@@ -587,11 +587,14 @@ final class PlainNight {
 
     /** 0, or what to answer since there is no WAY w to look at. */
     private int look(int w) {
+        if (w < 0) {
+            return NONE;
+        }
         going = whole();
         if (going.spent) {
             return -3;
         }
-        if (w < 0 || w >= going.ways.size()) {
+        if (w >= going.ways.size()) {
             return NONE;
         }
         way = going.ways.get(w);
@@ -778,11 +781,14 @@ final class PlainNight {
     }
 
     private int setAt(int which, int i) {
+        if (i < 0) {
+            return NONE;
+        }
         List<List<Integer>> sets = sets();
         if (sets == null) {
             return -3;
         }
-        return i < 0 || i >= sets.get(which).size() ? NONE : sets.get(which).get(i);
+        return i >= sets.get(which).size() ? NONE : sets.get(which).get(i);
     }
 
     int quarrels() {

@@ -50,6 +50,7 @@ public final class PromiseTest {
         keeping();
         counts();
         spentAnswers();
+        numbersBelowZeroWhileSpent();
         largest();
         System.out.println(wrong == 0 ? "all promises hold" : wrong + " answers are wrong");
         System.exit(wrong == 0 ? 0 : 1);
@@ -1215,6 +1216,55 @@ public final class PromiseTest {
         NightHours moves = told("who p; place a; place b; way a b 0;" + times("time x# of p in a; time y# of p in b;", 4));
         promise = 11;
         due("goes(0, 0)", moves.goes(0, 0), -3);
+    }
+
+    /** No WAY, QUARREL or GIVING UP has a number below 0: that needs no GOING THROUGH. From 0 on it does. */
+    private static void numbersBelowZeroWhileSpent() {
+        NightHours n = told("who p; place a; place b; way a b 0;"
+            + times("time x# of p in a; time y# of p in b;", 4) + "say s: xa at 0 1440; say d: xa at 0 9;");
+        n.doubt(1, true);
+        int[] below = {-1, -2, LOW};
+        for (int w : below) {
+            wayWhileSpent(n, w, -1);
+        }
+        int[] from = {0, 1, 999, 1000, 1001, HIGH};
+        for (int w : from) {
+            wayWhileSpent(n, w, -3);
+        }
+        NightHours sets = told(spentText(9) + "say z: x at 20 30;");
+        for (int i : below) {
+            promise = 21;
+            due("quarrel(" + i + ") while SPENT", sets.quarrel(i), -1);
+            promise = 23;
+            due("givingUp(" + i + ") while SPENT", sets.givingUp(i), -1);
+        }
+        promise = 21;
+        due("quarrel(HIGH) while SPENT", sets.quarrel(HIGH), -3);
+        promise = 23;
+        due("givingUp(HIGH) while SPENT", sets.givingUp(HIGH), -3);
+    }
+
+    private static void wayWhileSpent(NightHours n, int w, int want) {
+        promise = 10;
+        due("choice(" + w + ", 0) while SPENT", n.choice(w, 0), want);
+        due("choice(" + w + ", 1) of a DOUBTED one while SPENT", n.choice(w, 1), want);
+        due("choice(" + w + ", 2) while SPENT", n.choice(w, 2), -1);
+        promise = 11;
+        due("goes(" + w + ", 0) while SPENT", n.goes(w, 0), want);
+        promise = 12;
+        due("hour(" + w + ", 0, true) while SPENT", n.hour(w, 0, true), want);
+        due("hour(" + w + ", 0, false) while SPENT", n.hour(w, 0, false), want);
+        promise = 13;
+        due("gap(" + w + ", 0, 1, true) while SPENT", n.gap(w, 0, 1, true), -10000);
+        promise = 41;
+        due("slack(" + w + ", 0, true) while SPENT", n.slack(w, 0, true), want);
+        promise = 42;
+        due("drawn(" + w + ", 0, 0) while SPENT", n.drawn(w, 0, 0), want);
+        promise = 45;
+        due("kept(" + w + ") while SPENT", n.kept(w), want);
+        promise = 47;
+        due("hand(" + w + ", 0) while SPENT", n.hand(w, 0), want);
+        due("hand(" + w + ", 8) while SPENT", n.hand(w, 8), -1);
     }
 
     /** As many TIMES, SAYINGS, MOVES and QUESTIONS as there can be at once. */
