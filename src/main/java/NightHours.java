@@ -1077,6 +1077,11 @@ public final class NightHours {
             return NONE;
         }
 
+        /** Whether the INT that comes next is below 0: the state alone tells it, so no '-' outlives its INT. */
+        static boolean isBehindMinus(int state) {
+            return state == LOW_MINUS || state == HIGH_MINUS;
+        }
+
         /** SYNTAX (1), ROOM (2) or 0 of the TOKEN of that number. */
         int faultOf(int state, int kind, int number) {
             boolean joins = kind == Tokens.OR || kind == Tokens.AND;
@@ -1126,7 +1131,6 @@ public final class NightHours {
         private int x = 0;
         private int y = 0;
         private int low = 0;
-        private int sign = 1;
         int faultPlace = NONE;
 
         int readTape(byte[] tape, int length) {
@@ -1346,13 +1350,8 @@ public final class NightHours {
         }
 
         private int takeInt(int state, int kind, int value) {
-            if (kind == Tokens.MINUS) {
-                sign = -1;
-                return 0;
-            }
             if (kind == Tokens.INT) {
-                int signed = sign * value;
-                sign = 1;
+                int signed = Grammar.isBehindMinus(state) ? -value : value;
                 if (state == Grammar.LAST_INT) {
                     endPathOrOpen(signed);
                 } else if (Grammar.follow(state, kind) == Grammar.SPAN_END) {

@@ -63,7 +63,15 @@ public final class CompareTest {
     private void readNew(int size) {
         double slip = random.nextInt(3) == 0 ? 0.004 * (1 + random.nextInt(5)) : 0;
         int kind = random.nextInt(size == 10 ? 6 : 5);
+        if (random.nextInt(3) == 0) {
+            text = TextMaker.spoil(random, TextMaker.makeLive(random, size));
+            feedAndRead();
+        }
         text = kind == 5 ? TextMaker.makeFull(random) : kind < 3 ? TextMaker.makeLive(random, size) : TextMaker.make(random, slip, size);
+        feedAndRead();
+    }
+
+    private void feedAndRead() {
         byte[] bytes = text.getBytes(StandardCharsets.ISO_8859_1);
         int rounds = (bytes.length + 19) / 20;
         for (int r = 0; r < rounds; r++) {

@@ -27,6 +27,7 @@ public final class PromiseTest {
         readRoom();
         readMeaning();
         readChangesNothing();
+        noMinusOutlivesItsInt();
         doubts();
         walksAndMoves();
         waysAndChoices();
@@ -365,6 +366,38 @@ public final class PromiseTest {
         fault(n, "", 0, -1);
         due("count(2)", n.count(2), 0);
         due("ways()", n.ways(), 1);
+    }
+
+    /** A '-' is of the INT behind it alone, even if the text is refused for that INT. */
+    private static void noMinusOutlivesItsInt() {
+        promise = 4;
+        String low = "time x;say a:x behind x -1441 5;";
+        String high = "time x;say a:x behind x 0 -1441;";
+        for (String refused : new String[] {low, high, low.replace("say", "sure"), high.replace("say", "ask")}) {
+            NightHours n = new NightHours();
+            fault(n, refused, 5, refused.indexOf("1441"));
+            fault(n, "place a;place b;way a b 5;", 0, -1);
+            due("walk(0, 1) behind: " + refused, n.walk(0, 1), 5);
+            fault(n, refused, 5, refused.indexOf("1441"));
+            due("walk(0, 1) as ahead of: " + refused, n.walk(0, 1), 5);
+            fault(n, "time x;say a:x at 5 9;", 0, -1);
+            due("hour(0, 0, false) behind: " + refused, n.hour(0, 0, false), 5);
+            fault(n, refused, 5, refused.indexOf("1441"));
+            fault(n, "time x;time y;open x behind y 5 9;", 0, -1);
+            due("gap(0, 0, 1, false) behind: " + refused, n.gap(0, 0, 1, false), 5);
+            due("gap(0, 0, 1, true) behind: " + refused, n.gap(0, 0, 1, true), 9);
+            fault(n, refused, 5, refused.indexOf("1441"));
+            fault(n, "time x;time y;say a:x behind y 5 9 and x behind y -7 6;say b trust 8:x behind y 5 9;", 0, -1);
+            due("gap(0, 0, 1, false) behind: " + refused, n.gap(0, 0, 1, false), 5);
+            due("gap(0, 0, 1, true) behind: " + refused, n.gap(0, 0, 1, true), 6);
+        }
+        NightHours n = told("time x;time y;say a:x behind y -9 5;");
+        due("gap(0, 0, 1, false), '-' ahead of the low INT alone", n.gap(0, 0, 1, false), -9);
+        due("gap(0, 0, 1, true), '-' ahead of the low INT alone", n.gap(0, 0, 1, true), 5);
+        n = told("time x;time y;say a:x behind y -9 -5;sure b:x at 4 1440;");
+        due("gap(0, 0, 1, false), '-' ahead of both", n.gap(0, 0, 1, false), -9);
+        due("gap(0, 0, 1, true), '-' ahead of both", n.gap(0, 0, 1, true), -5);
+        due("hour(0, 0, false), the INT behind these", n.hour(0, 0, false), 4);
     }
 
     private static void doubts() {

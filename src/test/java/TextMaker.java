@@ -118,6 +118,34 @@ final class TextMaker {
         return m.text.toString();
     }
 
+    /** The text with one of its words, numbers or signs gone, changed, or cut there: most often a FAULT. */
+    static String spoil(Random random, String text) {
+        List<Integer> starts = new ArrayList<>();
+        List<Integer> numbers = new ArrayList<>();
+        for (int i = 0; i < text.length(); i++) {
+            boolean begins = i == 0 || !Character.isLetterOrDigit(text.charAt(i)) || !Character.isLetterOrDigit(text.charAt(i - 1));
+            if (begins && text.charAt(i) > ' ') {
+                starts.add(i);
+                if (Character.isDigit(text.charAt(i))) {
+                    numbers.add(i);
+                }
+            }
+        }
+        boolean atNumber = random.nextBoolean() && !numbers.isEmpty();
+        List<Integer> from = atNumber ? numbers : starts;
+        if (from.isEmpty()) {
+            return "?";
+        }
+        int at = from.get(random.nextInt(from.size()));
+        int end = at + 1;
+        while (end < text.length() && Character.isLetterOrDigit(text.charAt(at)) && Character.isLetterOrDigit(text.charAt(end))) {
+            end++;
+        }
+        String[] odd = atNumber ? new String[] {"1441", "9999", "-1441", "12345"} : new String[] {"", "who", "nobody", ";", ":", "-", "?", "7"};
+        String rest = random.nextInt(6) == 0 ? "" : text.substring(end);
+        return text.substring(0, at) + odd[random.nextInt(odd.length)] + rest;
+    }
+
     private boolean slips() {
         return random.nextDouble() < slip;
     }
