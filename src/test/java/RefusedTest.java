@@ -1,4 +1,3 @@
-import java.nio.charset.StandardCharsets;
 import java.util.ArrayList;
 import java.util.List;
 import java.util.Random;
@@ -66,40 +65,27 @@ public final class RefusedTest {
         return WHOLE.substring(end);
     }
 
-    private static int read(NightHours n, String text) {
-        byte[] bytes = text.getBytes(StandardCharsets.ISO_8859_1);
-        for (int from = 0; from < bytes.length; from += 20) {
-            int[] v = new int[5];
-            for (int i = 0; i < 20; i++) {
-                v[i / 4] = v[i / 4] << 8 | (from + i < bytes.length ? bytes[from + i] & 255 : 32);
-            }
-            n.feed(v[0], v[1], v[2], v[3], v[4]);
-        }
-        n.back((20 - bytes.length % 20) % 20);
-        return n.read();
-    }
-
     private static void behindRefused(String bad, String next) {
         NightHours n = new NightHours();
-        if (read(n, bad) == 0) {
+        if (Tape.read(n, bad) == 0) {
             return;
         }
         refused++;
         NightHours fresh = new NightHours();
-        int fault = read(n, next);
-        same("behind a refused text", bad, next, fault + answers(n), read(fresh, next) + answers(fresh));
+        int fault = Tape.read(n, next);
+        same("behind a refused text", bad, next, fault + answers(n), Tape.read(fresh, next) + answers(fresh));
     }
 
     private static void keepsWhatWasTold(String first, String bad) {
         NightHours n = new NightHours();
-        read(n, first);
+        Tape.read(n, first);
         n.doubt(0, true);
         n.set(0, 30);
         n.pick(1, 0);
         n.pick(100, 1);
         n.more(0, -1, 0, 700);
         String told = answers(n);
-        if (read(n, bad) != 0) {
+        if (Tape.read(n, bad) != 0) {
             same("what a refused text is read over", bad, first, answers(n), told);
         }
     }
@@ -111,7 +97,8 @@ public final class RefusedTest {
         }
     }
 
-    private static String answers(NightHours n) {
+    /** What an object answers to some 500 calls that change nothing. */
+    static String answers(NightHours n) {
         StringBuilder b = new StringBuilder();
         for (int what = 0; what < 20; what++) {
             put(b, n.count(what));
