@@ -287,6 +287,12 @@ final class AnswerBoundaries extends Boundaries {
         NightHours most = told("who p;" + times("place q#;", 6) + "way qa qb 1;" + times("time t# of p in qa;", 10) + times("say s#:t# at 0 0;", 10));
         due("ten MOVES more, behind all", most.could(0, 1, 0, 1), 1);
         due("ten MOVES more, at once", most.could(0, 1, 0, 0), 0);
+        // The last two at 10 and 20 are two and three minutes off, the first at 100 five.
+        most = told(MOST_MOVES);
+        int[][] row = {{8, 1}, {9, 0}, {11, 0}, {12, 1}, {17, 1}, {18, 0}, {104, 0}, {105, 1}};
+        for (int[] m : row) {
+            due("nine MOVES more behind ten SAYINGS and 41 MOVES, at " + m[0], most.could(0, 5, m[0], m[0]), m[1]);
+        }
 
         says(30, "COULD: 1, or 0;");
         due("1", n.could(0, 1, 0, 1440), 1);
@@ -352,6 +358,13 @@ final class AnswerBoundaries extends Boundaries {
             due("the greatest with x at " + w[0], n.been(0, 1, true), w[2]);
             due("in a itself", n.been(0, 0, false), 0);
             due("in a itself", n.been(0, 0, true), 1440);
+            due("the least again", n.been(0, 1, false), w[1]);
+            due("the greatest again", n.been(0, 1, true), w[2]);
+        }
+        for (int minute = 0; minute <= 1440; minute += 1440) {
+            NightHours n = told("who p;place a;place b;way a b 1440;time x of p in a;sure s:x at " + minute + " " + minute + ";");
+            due("the least a whole night off", n.been(0, 1, false), 1440 - minute);
+            due("the greatest a whole night off", n.been(0, 1, true), 1440 - minute);
         }
         NightHours n = told("who p;place a;place b;way a b 20;time x of p in a;time y of p in a;sure s:x at 10 10 or x at 19 19;sure t:y at 1430 1430 or y at 1425 1425;");
         due("in all WAYS: the least is of x at 10", n.been(0, 1, false), 30);
@@ -521,6 +534,17 @@ final class AnswerBoundaries extends Boundaries {
         due("all five QUESTIONS", n.plan(1), 5);
         due("four of five", n.plan(2), 4);
         due("one of five", n.plan(5), 1);
+        // x is y, or 5 behind it: only both answers together tell which.
+        n = told("time x;time y;sure r:x at 0 9 and y at 0 9;say s:x behind y 0 0 or x behind y 5 5;ask a:x at 0 4;ask b:y at 0 4;");
+        due("the same HOURS for all answers", n.plan(1), 2);
+        due("the same HOURS for all answers", n.first(1), 0);
+        n = told("time x;time y;say s:x at 0 4 or x behind y 0 0;ask a:x at 0 4;");
+        for (int round = 0; round < 2; round++) {
+            due("the second WAY can answer both", n.plan(1), -2);
+            n.more(1, -1, 5, 9);
+            due("with MORE it can't", n.plan(1), 1);
+            n.fewer();
+        }
 
         says(0, "told if there are 64 WAYS at most.");
         NightHours most = told("time x;" + alike("say", "s", 4, 4, 4) + "ask q:x at 0 9;");
@@ -546,6 +570,10 @@ final class AnswerBoundaries extends Boundaries {
         says(35, "-2: there is none;");
         due("plan(0) of one WAY", told("time x;ask q:x at 0 0;").plan(0), -2);
         due("without QUESTIONS", told("time x;say s:x at 0 0 or x at 1 1;").plan(1), -2);
+        due("yes would do, no would not", told("time x;say s:x at 0 0 or x at 1 1 or x at 1 1;ask q:x at 0 0;").plan(1), -2);
+        due("no would do, yes would not", told("time x;say s:x at 0 0 or x at 1 1 or x at 1 1;ask q:x at 1 1;").plan(1), -2);
+        due("no to all five leaves one WAY", told("time x;sure s:x at 9 9;" + times("ask k#:x at 0 0;", 5)).plan(0), -2);
+        due("yes to all five leaves one WAY", told("time x;sure s:x at 9 9;" + times("ask k#:x at 9 9;", 5)).plan(0), -2);
         due("two WAYS that no QUESTION tells apart", told("time x;say s:x at 0 0 or x at 0 0;ask q:x at 0 0;").plan(1), -2);
 
         says(35, "-3: SPENT, more than 64 WAYS;");
@@ -725,7 +753,24 @@ final class AnswerBoundaries extends Boundaries {
         due("between both, too late", told(walk + "sure s:m behind g 6 14;").ways(), 1);
         due("between both, just in time", told(walk + "sure s:m behind g 5 14;").kept(0), 1);
 
+        n = told(MEAL + "say t:meal behind come 0 5;");
+        n.doubt(1, true);
+        due("what is DOUBTED need not hold", n.kept(1), 1);
+        due("what is DOUBTED need not hold", n.hand(1, 2), 30);
+        // Behind ten SAYINGS and 41 MOVES: the last MOVE's TIMES, 8 open behind 9, are a minute's WALK apart.
+        String most = MOST_MOVES.replace("si:ti at 20 20", "si:ta at 100 100");
+        due("the last of 51 ITEMS holds at the worst", told(most + "open ti behind tj 1 11;").kept(0), 1);
+        n = told(most + "open ti behind tj 0 11;");
+        due("the last of 51 ITEMS can be", n.goes(0, 40), 1);
+        due("the last of 51 ITEMS may be broken", n.kept(0), 0);
+
         says(45, "1 if WAY w is KEPT, else 0;");
+        // Two of four WAYS have the choice that is not KEPT: each by itself, whichever was asked ahead.
+        n = told("time g;time x;open x behind g 0 9;say s:x behind g 0 8 or x behind g 0 9;say t:g at 0 9 or g at 0 9;");
+        int[][] order = {{3, 1}, {0, 0}, {1, 0}, {0, 0}, {2, 1}, {1, 0}, {3, 1}, {0, 0}, {0, 0}};
+        for (int[] w : order) {
+            due("kept(" + w[0] + ")", n.kept(w[0]), w[1]);
+        }
         due("without an open one", told(TWO).kept(1), 1);
         due("without anything", new NightHours().kept(0), 1);
         due("0", told(MEAL).kept(0), 0);
@@ -760,6 +805,7 @@ final class AnswerBoundaries extends Boundaries {
         due("none of three", n.keep(), -2);
         due("without a WAY", told(NO_WAY).keep(), -2);
         due("without HOURS", moreOfNone("time x;").keep(), -2);
+        due("an open one of none", told("time x;time y;open x behind y 2 1;").keep(), -2);
 
         says(46, "-3: SPENT.");
         due("keep()", told(SPENT).keep(), -3);
@@ -782,6 +828,11 @@ final class AnswerBoundaries extends Boundaries {
         due("all of the night is left", told("time g;time x;open x behind g 0 1440;").hand(0, 0), 0);
 
         says(47, "The HAND of WAY w for a TIME;");
+        n = told(MEAL);
+        due("the meal, come being open", n.hand(1, 2), 30);
+        tell(n, MEAL.replace("open come behind go 10 30;", ""));
+        due("the meal of a text in which it is not", n.hand(1, 2), 0);
+        due("come itself", n.hand(1, 1), 0);
         due("without an open one as hour()", told(TWO).hand(1, 0), 610);
         n = told(MEAL);
         due("going", n.hand(1, 0), 0);

@@ -16,6 +16,9 @@ abstract class Boundaries {
         + "sure rang:bell at 600 600;say a trust 7:x behind bell -60 -30 or x behind bell 10 50;say b:y at 590 610;"
         + "ask q:x at 0 600;ask r:y behind bell 0 1440;";
 
+    /** One PERSON, ten TIMES in six PLACES that stand in a row, so 45 less 4 MOVES; the hours fall by ten. */
+    static final String MOST_MOVES = mostMoves();
+
     /** The words of a promise; those of the Terms have number 0. */
     record Quote(int promise, String words) {
         @Override
@@ -118,5 +121,17 @@ abstract class Boundaries {
 
     static int[] noMinute() {
         return new int[] {-1, -2, -1440, LOW, 1441, 1442, 2881, HIGH};
+    }
+
+    private static String mostMoves() {
+        StringBuilder b = new StringBuilder("who p;" + times("place q#;", 6) + "way qa qb 1;way qb qc 1;way qc qd 1;way qd qe 1;way qe qf 1;");
+        for (int i = 0; i < 10; i++) {
+            b.append("time t").append((char) ('a' + i)).append(" of p in q").append((char) ('a' + i % 6)).append(';');
+        }
+        for (int i = 0; i < 10; i++) {
+            int minute = 100 - 10 * i;
+            b.append("say s").append((char) ('a' + i)).append(":t").append((char) ('a' + i)).append(" at " + minute + " " + minute + ";");
+        }
+        return b.toString();
     }
 }

@@ -75,12 +75,7 @@ public final class CompareTest {
         byte[] bytes = text.getBytes(StandardCharsets.ISO_8859_1);
         int rounds = (bytes.length + 19) / 20;
         for (int r = 0; r < rounds; r++) {
-            int[] v = new int[5];
-            for (int i = 0; i < 20; i++) {
-                int at = r * 20 + i;
-                int b = at < bytes.length ? bytes[at] & 255 : 32;
-                v[i / 4] = v[i / 4] << 8 | b;
-            }
+            int[] v = Tape.twenty(bytes, 20 * r);
             due("feed", real.feed(v[0], v[1], v[2], v[3], v[4]), plain.feed(v[0], v[1], v[2], v[3], v[4]));
         }
         int over = real.count(7) - bytes.length;

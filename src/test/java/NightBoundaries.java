@@ -3,8 +3,6 @@ final class NightBoundaries extends Boundaries {
     /** Four WAYS, one a choice. */
     private static final String FOUR = "time x;say s:x at 50 60 or x at 5 6 or x at 70 80 or x at 30 40;";
     private static final String NO_WAY = "time x;say s:x at 2 1;ask q:x at 1 1;";
-    /** One PERSON, ten TIMES in six PLACES, so 45 less 4 MOVES, the hours falling by ten. */
-    private static final String MOST_MOVES = mostMoves();
 
     @Override
     void run() {
@@ -39,18 +37,6 @@ final class NightBoundaries extends Boundaries {
         counting();
     }
 
-    private static String mostMoves() {
-        StringBuilder b = new StringBuilder("who p;" + times("place q#;", 6) + "way qa qb 1;way qb qc 1;way qc qd 1;way qd qe 1;way qe qf 1;");
-        for (int i = 0; i < 10; i++) {
-            b.append("time t").append((char) ('a' + i)).append(" of p in q").append((char) ('a' + i % 6)).append(';');
-        }
-        for (int i = 0; i < 10; i++) {
-            int minute = 100 - 10 * i;
-            b.append("say s").append((char) ('a' + i)).append(":t").append((char) ('a' + i)).append(" at " + minute + " " + minute + ";");
-        }
-        return b.toString();
-    }
-
     private void hoursAndWalks() {
         says(0, "HOURS: for each TIME a minute 0 .. 1440.");
         NightHours n = told("time x;");
@@ -73,6 +59,12 @@ final class NightBoundaries extends Boundaries {
         due("the least of several ways", told("place a;place b;way a b 9;way b a 7;way a b 8;").walk(0, 1), 7);
         due("the least of several ways, the first", told("place a;place b;way a b 7;way b a 9;").walk(1, 0), 7);
         due("a way of 0", told("place a;place b;way a b 0;").walk(1, 0), 0);
+        due("a way of 0 and then a longer one", told("place a;place b;way a b 0;way a b 5;way b a 6;").walk(0, 1), 0);
+        for (String text : new String[] {"way a b 0;way b c 5;", "way a b 5;way b c 0;", "way b a 0;way a c 5;", "way b a 5;way a c 0;", "way c a 5;way c b 0;", "way c a 0;way c b 5;"}) {
+            NightHours by = told("place a;place b;place c;" + text);
+            due("the sum of 0 and 5 by " + text, by.walk(0, 1) + by.walk(1, 2) + by.walk(2, 0), 10);
+        }
+        due("by PLACE 0", told("place a;place b;place c;way b a 5;way a c 6;").walk(1, 2), 11);
         n = told(times("place p#;", 6) + "way pa pf 1;way pf pb 2;way pb pe 4;way pe pc 8;way pc pd 16;");
         due("over all six", n.walk(0, 3), 31);
         due("over all six, back", n.walk(3, 0), 31);
@@ -397,8 +389,14 @@ final class NightBoundaries extends Boundaries {
             due("choice(0, " + k + ")", n.choice(0, k), 3);
         }
         n = told(FOUR);
-        for (int w = 0; w < 4; w++) {
-            due("choice(" + w + ", 0)", n.choice(w, 0), w);
+        for (int round = 0; round < 2; round++) {
+            for (int w = 0; w < 4; w++) {
+                due("choice(" + w + ", 0)", n.choice(w, 0), w);
+            }
+            n.more(0, -1, 65, 1440);
+            due("choice(0, 0) with MORE, the only one left", n.choice(0, 0), 2);
+            due("choice(1, 0) with MORE", n.choice(1, 0), -1);
+            n.fewer();
         }
         n = told(TWO);
         due("choice of a sure one", n.choice(1, 0), 0);
@@ -409,6 +407,9 @@ final class NightBoundaries extends Boundaries {
         due("choice(1, 1)", n.choice(1, 1), -2);
         due("choice(0, 1) where there is no such WAY", n.choice(2, 1), -1);
         due("choice of the other", n.choice(1, 2), 0);
+        NightHours all = told("time x;say s:x at 0 9;");
+        all.doubt(0, true);
+        due("choice(0, 0) without any ITEM", all.choice(0, 0), -2);
 
         says(10, "-3: SPENT;");
         NightHours spent = told(SPENT);
@@ -436,8 +437,13 @@ final class NightBoundaries extends Boundaries {
     private void going() {
         says(11, "Likewise of a MOVE.");
         NightHours n = told(TWO);
-        due("goes(0, 0)", n.goes(0, 0), 0);
-        due("goes(1, 0)", n.goes(1, 0), 1);
+        for (int round = 0; round < 2; round++) {
+            due("goes(0, 0)", n.goes(0, 0), 0);
+            due("goes(1, 0)", n.goes(1, 0), 1);
+            n.more(0, -1, 600, 1440);
+            due("goes(0, 0) with MORE", n.goes(0, 0), 1);
+            n.fewer();
+        }
         for (int w : noSuch(2)) {
             due("goes(" + w + ", 0)", n.goes(w, 0), -1);
         }
@@ -720,6 +726,13 @@ final class NightBoundaries extends Boundaries {
         n.set(4, 100);
         due("the other way round", n.breaks(), -2);
         due("without MOVES", told("time x;").breaks(), -2);
+        NightHours gone = told(TWO);
+        for (int text = 0; text < 3; text++) {
+            tell(gone, "time x;time y;");
+            gone.set(0, 5);
+            gone.set(1, 5);
+            due("a MOVE of a text ahead", gone.breaks(), -2);
+        }
     }
 
     private void picking() {
@@ -743,6 +756,9 @@ final class NightBoundaries extends Boundaries {
         due("pick(0, 3), the last of four", told(FOUR).pick(0, 3), true);
         NightHours far = told("who p;place a;place b;time x of p in a;time y of p in b;");
         due("pick(100, NONE) of a MOVE without a WALK", far.pick(100, -1), true);
+        NightHours near = told("who p;place a;place b;way a b 0;time x of p in a;time y of p in b;");
+        due("pick(100, 0) of a MOVE with a WALK of 0", near.pick(100, 0), true);
+        due("pick(100, 1) of a MOVE with a WALK of 0", near.pick(100, 1), true);
 
         says(26, "false: no such ones, a SAYING that is DOUBTED.");
         n.pick(1, 0);
@@ -1029,6 +1045,12 @@ final class NightBoundaries extends Boundaries {
         due("x at 1", day.setWays(), 0);
         due("no WAY", told(NO_WAY).setWays(), 0);
         due("three that can be by twos alone", threeSet(), 0);
+        NightHours ten = told(times("time t#;", 10) + "say s:tj behind ta 5 9;");
+        ten.set(9, 4);
+        due("the last of ten at 4", ten.setWays(), 0);
+        ten.set(9, 5);
+        due("the last of ten at 5", ten.setWays(), 1);
+        due("the first of ten then", ten.slack(0, 0, true), 0);
 
         says(40, "-3: SPENT.");
         due("setWays()", told(SPENT).setWays(), -3);
@@ -1066,6 +1088,15 @@ final class NightBoundaries extends Boundaries {
         day.set(0, 0);
         due("y with x at 0", day.slack(0, 1, false), 1440);
         due("x at 0", day.slack(0, 0, true), 0);
+        NightHours pair = told("time x;time y;say s:y behind x 5 9;");
+        pair.set(0, 100);
+        due("y, TIME 0 SET", pair.slack(0, 1, false), 105);
+        due("y, TIME 0 SET", pair.slack(0, 1, true), 109);
+        pair.set(0, -1);
+        pair.set(1, 100);
+        due("x, TIME 1 SET", pair.slack(0, 0, false), 91);
+        due("x, TIME 1 SET", pair.slack(0, 0, true), 95);
+        due("without any ITEM", told("time x;").slack(0, 0, true), 1440);
 
         says(41, "-2: it has none with these;");
         n.set(0, 560);
@@ -1136,6 +1167,8 @@ final class NightBoundaries extends Boundaries {
         says(42, "with A alone its PLACE;");
         due("behind the last", n.drawn(0, 0, 401), 0);
         due("at the night's end", n.drawn(0, 0, 1440), 0);
+        NightHours ten = told("who p;place a;place b;" + times("time t# of p in a;", 9) + "time z of p in a;sure s:z at 9 9;");
+        due("behind the last of ten", ten.drawn(0, 0, 10), 0);
         due("behind the last", order.drawn(0, 0, 301), 2);
 
         says(42, "else -2.");

@@ -1,5 +1,3 @@
-import java.nio.charset.StandardCharsets;
-
 /** Each promise of the document by itself: ordinary calls, the edges it names, wrong arguments. Answers by hand. */
 public final class PromiseTest {
     private static final int LOW = Integer.MIN_VALUE;
@@ -68,17 +66,6 @@ public final class PromiseTest {
         due(call, got ? 1 : 0, want ? 1 : 0);
     }
 
-    private static void put(NightHours n, byte[] bytes) {
-        for (int from = 0; from < bytes.length; from += 20) {
-            int[] v = new int[5];
-            for (int i = 0; i < 20; i++) {
-                v[i / 4] = v[i / 4] << 8 | (from + i < bytes.length ? bytes[from + i] & 255 : 32);
-            }
-            n.feed(v[0], v[1], v[2], v[3], v[4]);
-        }
-        n.back((20 - bytes.length % 20) % 20);
-    }
-
     private static NightHours told(String text) {
         NightHours n = new NightHours();
         fault(n, text, 0, -1);
@@ -86,7 +73,7 @@ public final class PromiseTest {
     }
 
     private static void fault(NightHours n, String text, int fault, int place) {
-        put(n, text.getBytes(StandardCharsets.ISO_8859_1));
+        Tape.put(n, text);
         due("count(7) ahead of: " + text, n.count(7), text.length());
         due("read() of: " + text, n.read(), fault);
         due("place() of: " + text, n.place(), place);
@@ -128,8 +115,7 @@ public final class PromiseTest {
         due("plan(1)", n.plan(1), 0);
         due("NONE", NightHours.NONE, -1);
         NightHours other = new NightHours();
-        put(other, "who a;".getBytes(StandardCharsets.ISO_8859_1));
-        other.read();
+        Tape.read(other, "who a;");
         due("count(0) of one while another is told", n.count(0), 0);
     }
 

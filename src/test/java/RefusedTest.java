@@ -118,8 +118,9 @@ public final class RefusedTest {
             }
         }
         for (int q = 0; q < 5; q++) {
-            put(b, n.ask(q, false), n.ask(q, true));
+            put(b, n.ask(q, false), n.ask(q, true), n.left(1 << q, 0), n.kept(q), n.goes(q, 0), n.tried(q, 0), n.choice(q, 1), n.drawn(0, 0, 100 * q));
         }
+        put(b, n.could(0, 0, 0, 1440), n.could(0, 1, 50, 60), n.been(0, 0, true), n.been(0, 1, false));
         return b.toString();
     }
 

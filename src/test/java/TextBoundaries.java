@@ -511,10 +511,17 @@ final class TextBoundaries extends Boundaries {
 
     private void inPlaceOfTheOneAhead() {
         says(0, "else it is in place of the one ahead,");
-        for (String text : new String[] {"", "  ", "who a;", "time x;say s:x at 5 6 or x at 7 8;", RICH}) {
+        String[] texts = {"", "  ", "who a;", "place a;place b;way a b 5;place c;", "time x;say s:x at 5 6 or x at 7 8 and x at 8 9 or x at 9 9;", TWO, SPENT, MOST_MOVES, RICH};
+        for (String text : texts) {
             NightHours n = rich();
+            RefusedTest.answers(n);
             faultOver(n, text, 0, -1);
             due("answers as a new object's of \"" + text + "\"", RefusedTest.answers(n).equals(RefusedTest.answers(told(text))), true);
+        }
+        for (String one : texts) {
+            for (String other : texts) {
+                inTurn(one, other);
+            }
         }
 
         NightHours n = rich();
@@ -538,6 +545,16 @@ final class TextBoundaries extends Boundaries {
         due("the WAY that MORE had ruled out", n.ways(), 2);
         for (int i = 1; i <= 6; i++) {
             due("more(), six of them", n.more(0, -1, 0, 1440), i);
+        }
+    }
+
+    /** Two texts behind each other, again, and in turn: nothing of the one may be left in the other, whatever was asked in between. */
+    private void inTurn(String one, String other) {
+        NightHours n = told(one);
+        RefusedTest.answers(n);
+        for (String text : new String[] {other, other, one, other, one}) {
+            tell(n, text);
+            due("answers as a new object's of \"" + text + "\"", RefusedTest.answers(n).equals(RefusedTest.answers(told(text))), true);
         }
     }
 
@@ -625,6 +642,15 @@ final class TextBoundaries extends Boundaries {
             n.feed(0, 0, 0, 0, 0);
         }
         due("back(2000)", n.back(2000), 0);
+        // What has gone is no part of the last word or number, though it stood right behind it.
+        Tape.put(n, "who a;who");
+        n.back(1);
+        due("read() of a word without its end", n.read(), 1);
+        due("place() of it", n.place(), 6);
+        Tape.put(n, "place a;place b;way a b 12345");
+        n.back(1);
+        due("read() of a number without its end", n.read(), 1);
+        due("place() of the text's end", n.place(), 28);
 
         says(3, "NONE, and nothing goes, if it has not so many, or n is below 0.");
         due("back(1) of an empty tape", n.back(1), -1);

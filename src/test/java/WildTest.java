@@ -58,14 +58,7 @@ public final class WildTest {
     private static void read(NightHours n, Random random, int size) {
         n.back(n.count(7));
         String text = random.nextInt(4) > 0 ? TextMaker.makeLive(random, size) : TextMaker.make(random, 0.01, size);
-        int[] v = new int[5];
-        int length = Math.min(2000, text.length());
-        for (int from = 0; from < length; from += 20) {
-            for (int i = 0; i < 20; i++) {
-                v[i / 4] = v[i / 4] << 8 | (from + i < length ? text.charAt(from + i) & 255 : 32);
-            }
-            n.feed(v[0], v[1], v[2], v[3], v[4]);
-        }
+        Tape.put(n, text.substring(0, Math.min(2000, text.length())));
         n.read();
     }
 
