@@ -14,6 +14,7 @@ public final class NightHours {
     private static final int FED_BYTES = 20;
     private static final int MOST_TOKENS = 500;
     private static final int MOST_NAMES = 35;
+    private static final int MOST_PERSONS = 4;
     private static final int MOST_PLACES = 6;
     private static final int MOST_TIMES = 10;
     private static final int MOST_SAYINGS = 10;
@@ -148,6 +149,11 @@ public final class NightHours {
 
     private static boolean isMinute(int minute) {
         return minute >= 0 && minute <= LAST_MINUTE;
+    }
+
+    /** What stands there in a row; the other number if the row has no such place. */
+    private static int valueAt(int[] row, int i, int other) {
+        return i >= 0 && i < row.length ? row[i] : other;
     }
 
     public int walk(int a, int b) {
@@ -318,8 +324,8 @@ public final class NightHours {
 
     public int breaks() {
         for (int k = 0; k < told.moves; k++) {
-            int lesser = held.hours[told.moveLesser[k]];
-            int greater = held.hours[told.moveGreater[k]];
+            int lesser = valueAt(held.hours, told.moveLesser[k], NONE);
+            int greater = valueAt(held.hours, told.moveGreater[k], NONE);
             int minutes = told.moveWalk[k];
             if (lesser == NONE || greater == NONE) {
                 continue;
@@ -665,7 +671,7 @@ public final class NightHours {
         if (!isKept(w)) {
             return NONE;
         }
-        return told.opens.y[time] != NONE ? NOTHING : hard.minute(hard.items, time, false);
+        return told.isOpen(time) ? NOTHING : hard.minute(hard.items, time, false);
     }
 
     public int count(int what) {
@@ -707,25 +713,33 @@ public final class NightHours {
         }
 
         void put(int row, int ofX, int ofY) {
-            if (row >= 0 && row < x.length) {
+            if (hasRow(row)) {
                 x[row] = ofX;
                 y[row] = ofY;
             }
         }
 
         void bound(int row, int from, int to) {
-            if (row >= 0 && row < x.length) {
+            if (hasRow(row)) {
                 low[row] = from;
                 high[row] = to;
             }
         }
 
-        boolean isSet(int row, int[] hours) {
-            return hours[x[row]] != NONE && (y[row] == NONE || hours[y[row]] != NONE);
+        private boolean hasRow(int row) {
+            return row >= 0 && row < x.length;
         }
 
+        boolean isSet(int row, int[] hours) {
+            return hasRow(row) && valueAt(hours, x[row], NONE) != NONE && (y[row] == NONE || valueAt(hours, y[row], NONE) != NONE);
+        }
+
+        /** Of a span whose TIMES are SET: whether it holds with these hours. */
         boolean holds(int row, int[] hours) {
-            int distance = hours[x[row]] - (y[row] == NONE ? 0 : hours[y[row]]);
+            if (!hasRow(row)) {
+                return false;
+            }
+            int distance = valueAt(hours, x[row], 0) - valueAt(hours, y[row], 0);
             return low[row] <= distance && distance <= high[row];
         }
     }
@@ -777,6 +791,57 @@ public final class NightHours {
             Arrays.fill(parts, 0);
         }
 
+        void addSaying(boolean isSure) {
+            if (sayings >= MOST_SAYINGS) {
+                return;
+            }
+            if (isSure) {
+                sureBits |= 1 << sayings;
+            }
+            choices[sayings] = 1;
+            parts[sayings * MOST_ALLS] = 1;
+            sayings++;
+        }
+
+        /** One more SPAN of the last SAYING: of an ALL of its own, or of its last one. */
+        void addPart(boolean isNewAll) {
+            int saying = sayings - 1;
+            if (saying < 0 || saying >= MOST_SAYINGS) {
+                return;
+            }
+            if (isNewAll && choices[saying] < MOST_ALLS) {
+                choices[saying]++;
+            }
+            int all = saying * MOST_ALLS + choices[saying] - 1;
+            if (all >= 0 && all < parts.length && parts[all] < MOST_PARTS) {
+                parts[all]++;
+            }
+        }
+
+        /** The row of the last SAYING's last SPAN. */
+        int lastSpan() {
+            int saying = sayings - 1;
+            int all = valueAt(choices, saying, 0) - 1;
+            return firstSpan(saying, all) + partsOf(saying, all) - 1;
+        }
+
+        void trustLast(int value) {
+            if (sayings > 0 && sayings <= MOST_SAYINGS) {
+                trust[sayings - 1] = value;
+            }
+        }
+
+        /** Into a row with a place for each TIME, at the last one's. */
+        void putLastTime(int[] row, int value) {
+            if (times > 0 && times <= row.length) {
+                row[times - 1] = value;
+            }
+        }
+
+        boolean isOpen(int time) {
+            return valueAt(opens.y, time, NONE) != NONE;
+        }
+
         int allBits() {
             return (1 << sayings) - 1;
         }
@@ -786,7 +851,8 @@ public final class NightHours {
         }
 
         int partsOf(int saying, int alt) {
-            return parts[saying * MOST_ALLS + alt];
+            int all = saying * MOST_ALLS + alt;
+            return all >= 0 && all < parts.length ? parts[all] : 0;
         }
 
         int walkBetween(int a, int b) {
@@ -805,6 +871,9 @@ public final class NightHours {
         }
 
         void addPath(int a, int b, int minutes) {
+            if (a < 0 || a >= MOST_PLACES || b < 0 || b >= MOST_PLACES) {
+                return;
+            }
             int there = a * MOST_PLACES + b;
             int old = walks[there];
             if (old < 0 || minutes < old) {
@@ -1210,7 +1279,9 @@ public final class NightHours {
                 case Grammar.SPAN_Y:
                     return takeSpanTime(state, value);
                 case Grammar.SPAN_END:
-                    takeJoin(kind);
+                    if (kind == Tokens.OR || kind == Tokens.AND) {
+                        into.addPart(kind == Tokens.OR);
+                    }
                     return 0;
                 case Grammar.TRUST_INT:
                     return takeTrust((int) value);
@@ -1235,29 +1306,25 @@ public final class NightHours {
             return 0;
         }
 
+        /** The number of what is new; ROOM lets no more come, the bounds here keep every row's index within it. */
         private int numberNew(int kind) {
             switch (kind) {
                 case Tokens.WHO:
-                    return into.persons++;
+                    into.persons = Math.min(into.persons + 1, MOST_PERSONS);
+                    return into.persons - 1;
                 case Tokens.PLACE:
-                    return into.places++;
+                    into.places = Math.min(into.places + 1, MOST_PLACES);
+                    return into.places - 1;
                 case Tokens.TIME:
-                    return into.times++;
+                    into.times = Math.min(into.times + 1, MOST_TIMES);
+                    return into.times - 1;
                 case Tokens.ASK:
-                    return into.questions++;
+                    into.questions = Math.min(into.questions + 1, MOST_QUESTIONS);
+                    return into.questions - 1;
                 default:
-                    return addSaying();
+                    into.addSaying(tell == Tokens.SURE);
+                    return into.sayings - 1;
             }
-        }
-
-        private int addSaying() {
-            int saying = into.sayings++;
-            if (tell == Tokens.SURE) {
-                into.sureBits |= 1 << saying;
-            }
-            into.choices[saying] = 1;
-            into.parts[saying * MOST_ALLS] = 1;
-            return saying;
         }
 
         private int find(long name, int kind) {
@@ -1288,11 +1355,7 @@ public final class NightHours {
             if (found == NONE) {
                 return UNTOLD;
             }
-            if (isPerson) {
-                into.timePerson[into.times - 1] = found;
-            } else {
-                into.timePlace[into.times - 1] = found;
-            }
+            into.putLastTime(isPerson ? into.timePerson : into.timePlace, found);
             return 0;
         }
 
@@ -1303,10 +1366,10 @@ public final class NightHours {
             }
             if (state == Grammar.OPEN_X) {
                 x = found;
-                return into.opens.y[x] != NONE ? WRONG : 0;
+                return into.isOpen(x) ? WRONG : 0;
             }
             y = found;
-            if (x == y || into.opens.y[y] != NONE) {
+            if (x == y || into.isOpen(y)) {
                 return WRONG;
             }
             for (int t = 0; t < into.times; t++) {
@@ -1331,21 +1394,11 @@ public final class NightHours {
             return 0;
         }
 
-        private void takeJoin(int kind) {
-            int saying = into.sayings - 1;
-            if (kind == Tokens.OR) {
-                into.choices[saying]++;
-            }
-            if (kind == Tokens.OR || kind == Tokens.AND) {
-                into.parts[saying * MOST_ALLS + into.choices[saying] - 1]++;
-            }
-        }
-
         private int takeTrust(int value) {
             if (value == 0 || value > MOST_TRUST) {
                 return WRONG;
             }
-            into.trust[into.sayings - 1] = value;
+            into.trustLast(value);
             return 0;
         }
 
@@ -1373,14 +1426,9 @@ public final class NightHours {
         }
 
         private void endSpan(int high) {
-            Spans spans = into.asked;
-            int row = into.questions - 1;
-            if (tell != Tokens.ASK) {
-                int saying = into.sayings - 1;
-                int alt = into.choices[saying] - 1;
-                spans = into.spans;
-                row = into.firstSpan(saying, alt) + into.partsOf(saying, alt) - 1;
-            }
+            boolean isAsked = tell == Tokens.ASK;
+            Spans spans = isAsked ? into.asked : into.spans;
+            int row = isAsked ? into.questions - 1 : into.lastSpan();
             spans.put(row, x, y);
             spans.bound(row, low, high);
         }
@@ -1534,13 +1582,14 @@ public final class NightHours {
         }
 
         int tryOf(int i, int what) {
+            int one = valueAt(tryRow, i, 0);
             switch (what) {
                 case 0:
-                    return tryRow[i] >> 4;
+                    return one >> 4;
                 case 1:
-                    return tryRow[i] >> 1 & 7;
+                    return one >> 1 & 7;
                 case 2:
-                    return tryRow[i] & 1;
+                    return one & 1;
                 default:
                     return NONE;
             }
@@ -1653,16 +1702,16 @@ public final class NightHours {
 
         private int choicesOf(int code) {
             if (code < FIRST_MOVE) {
-                return told.choices[code];
+                return valueAt(told.choices, code, 0);
             }
             return walkOf(code) < 0 ? 0 : 2;
         }
 
         private int walkOf(int code) {
             if (code >= FIRST_GUEST) {
-                return told.walkBetween(told.timePlace[code - FIRST_GUEST], guestPlace);
+                return told.walkBetween(valueAt(told.timePlace, code - FIRST_GUEST, NONE), guestPlace);
             }
-            return told.moveWalk[code - FIRST_MOVE];
+            return valueAt(told.moveWalk, code - FIRST_MOVE, NOTHING);
         }
 
         /** The level behind has this one's spans and those of a choice; false: no HOURS. */
@@ -1675,6 +1724,9 @@ public final class NightHours {
             int wider = (widened >> code & 1) * give;
             int row = told.firstSpan(code, choice);
             int end = row + told.partsOf(code, choice);
+            if (row < 0 || end > spans.x.length) {
+                return false;
+            }
             for (int i = row; i < end; i++) {
                 if (!bind(level + 1, spans.x[i], spans.y[i], spans.low[i] - wider, spans.high[i] + wider)) {
                     return false;
@@ -1688,8 +1740,8 @@ public final class NightHours {
             int lesser = code - FIRST_GUEST;
             int greater = told.times;
             if (code < FIRST_GUEST) {
-                lesser = told.moveLesser[code - FIRST_MOVE];
-                greater = told.moveGreater[code - FIRST_MOVE];
+                lesser = valueAt(told.moveLesser, code - FIRST_MOVE, NONE);
+                greater = valueAt(told.moveGreater, code - FIRST_MOVE, NONE);
             }
             if (choice == 0) {
                 return net.tighten(level, lesser + 1, greater + 1, -minutes);
