@@ -7,7 +7,9 @@ import java.nio.file.Path;
 import java.util.ArrayList;
 import java.util.Arrays;
 import java.util.List;
+import java.util.Map;
 import java.util.Set;
+import java.util.TreeMap;
 import java.util.TreeSet;
 import java.util.regex.Matcher;
 import java.util.regex.Pattern;
@@ -28,6 +30,7 @@ public final class LanguageTest {
         String source = Files.readString(Path.of("src/main/java/NightHours.java"));
         words(withoutComments(source));
         methods(withoutComments(source));
+        depth(withoutComments(source));
         System.out.println(wrong == 0 ? "the language is kept" : wrong + " rules are broken");
         System.exit(wrong == 0 ? 0 : 1);
     }
@@ -143,5 +146,53 @@ public final class LanguageTest {
                 check(constructs || !line.matches(".*\\bnew\\b.*"), "12: made in a call: " + line.strip());
             }
         }
+    }
+
+    /** Calls go at most eight deep, and none comes back to where it came from but for a method that calls itself. */
+    private static void depth(String source) {
+        Map<String, StringBuilder> bodies = new TreeMap<>();
+        Pattern head = Pattern.compile("^( {4}| {8})\\w[\\w\\[\\]<> ]*\\b(\\w+)\\([^;]*\\{$");
+        StringBuilder body = null;
+        for (String line : source.split("\n")) {
+            Matcher m = head.matcher(line);
+            if (m.find()) {
+                body = bodies.computeIfAbsent(m.group(2), k -> new StringBuilder());
+            } else if (body != null) {
+                body.append(line).append('\n');
+            }
+        }
+        check(bodies.size() > 100, "11: only " + bodies.size() + " methods were found");
+        Map<String, Set<String>> calls = new TreeMap<>();
+        bodies.forEach((name, text) -> calls.put(name, callsIn(text.toString(), bodies.keySet())));
+        for (String name : calls.keySet()) {
+            List<String> chain = longest(name, calls, new ArrayList<>());
+            check(chain.size() <= 8, "11: calls go " + chain.size() + " deep: " + chain);
+        }
+    }
+
+    /** Methods of one name count as one: that can only make a chain longer. */
+    private static Set<String> callsIn(String text, Set<String> names) {
+        Set<String> called = new TreeSet<>();
+        Matcher m = Pattern.compile("(new )?\\b(\\w+)\\(").matcher(text);
+        while (m.find()) {
+            if (m.group(1) == null && names.contains(m.group(2))) {
+                called.add(m.group(2));
+            }
+        }
+        return called;
+    }
+
+    private static List<String> longest(String name, Map<String, Set<String>> calls, List<String> ahead) {
+        List<String> here = new ArrayList<>(ahead);
+        here.add(name);
+        List<String> best = here;
+        for (String next : calls.get(name)) {
+            check(next.equals(name) || !here.contains(next), "8: " + next + " comes back to itself by " + here);
+            if (!here.contains(next)) {
+                List<String> chain = longest(next, calls, here);
+                best = chain.size() > best.size() ? chain : best;
+            }
+        }
+        return best;
     }
 }
